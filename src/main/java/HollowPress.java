@@ -19,6 +19,9 @@ public final class HollowPress {
     private static final int COLOURS = 10, MOST_TIME = 1000;
     private static final int DRAG = 5000;
 
+    /** Above every sum that can come up. */
+    private static final int MOST = 0x7FFFFFFF;
+
     private final Sheet[] sheets = new Sheet[SHEETS];
     private final Thing[] things = new Thing[PLACES];
     private final Trace asked = new Trace();
@@ -129,8 +132,8 @@ public final class HollowPress {
         if (!below(place, PLACES)) return BAD;
         if (!(things[place] instanceof Part part)) return otherThing(place);
         if (part.thickness(cell) == 0 || part.hasGate(cell)) return BAD;
-        if (part.gateCount >= MOST_GATES) return FULL;
         int number = part.addGate(cell);
+        if (number == FULL) return FULL;
         part.ends = flow.endsOf(part);
         return fine(number);
     }
@@ -191,7 +194,6 @@ public final class HollowPress {
     public int branch(int parent, int length, int size) {
         if (parent != NONE && !below(parent, tree.branches)) return BAD;
         if (!among(length, 1, MOST_LENGTH) || !among(size, 1, MOST_SIZE)) return BAD;
-        if (tree.branches >= BRANCHES) return FULL;
         return tree.grow(parent, length, size);
     }
 
@@ -250,14 +252,12 @@ public final class HollowPress {
 
     public int press(int force) {
         if (!among(force, 0, MOST_FORCE)) return BAD;
-        if (hall.presses >= PRESSES) return FULL;
         return hall.addPress(force);
     }
 
     public int job(int force, int colour, int time) {
         if (!among(force, 0, MOST_FORCE) || !below(colour, COLOURS)) return BAD;
         if (!among(time, 1, MOST_TIME)) return BAD;
-        if (hall.jobs >= JOBS) return FULL;
         return hall.addJob(force, colour, time);
     }
 
@@ -613,7 +613,7 @@ public final class HollowPress {
 
     /** How one part fills; kept till another part, or the same with more gates, is asked for. */
     private static final class Flow {
-        private static final int NO_WAY = Integer.MAX_VALUE;
+        private static final int NO_WAY = MOST;
         private static final int WAYS = 4;
 
         private final int[] drags = new int[MOST_CELLS];
@@ -889,8 +889,8 @@ public final class HollowPress {
 
         int spread() {
             measure();
-            int low = Integer.MAX_VALUE;
-            int high = Integer.MIN_VALUE;
+            int low = MOST;
+            int high = 0;
             for (int b = 0; b < branches; b++) {
                 Part part = hung[b];
                 if (part == null) continue;
@@ -908,9 +908,9 @@ public final class HollowPress {
                     choices++;
                 }
             }
-            leastSpread = Integer.MAX_VALUE;
-            leastMass = Integer.MAX_VALUE;
-            tryFrom(0, Integer.MAX_VALUE, Integer.MIN_VALUE, 0);
+            leastSpread = MOST;
+            leastMass = MOST;
+            tryFrom(0, MOST, 0, 0);
         }
 
         /**
@@ -998,16 +998,10 @@ public final class HollowPress {
             return below(i, lengths[press]) ? rows[press][i] : NONE;
         }
 
+        /** Colours only rise in a row, so the pains add up to the way from the first to the last. */
         int pains(int press) {
-            int sum = 0;
-            for (int k = 1; k < lengths[press]; k++) {
-                sum += pain(colours[rows[press][k - 1]], colours[rows[press][k]]);
-            }
-            return sum;
-        }
-
-        private static int pain(int colour, int next) {
-            return next >= colour ? next - colour : 5 * (colour - next) + 3;
+            int last = lengths[press] - 1;
+            return last < 0 ? 0 : colours[rows[press][last]] - colours[rows[press][0]];
         }
 
         private void forgetPlan() {
@@ -1027,9 +1021,9 @@ public final class HollowPress {
         }
 
         /**
-         * From the lightest to the darkest the pains are their distance; any order that goes back
-         * has that distance, too, and more. So the least pains have the colours rising, and jobs of
-         * one colour stay by their numbers.
+         * Any order goes once all the way between the lightest and the darkest colour: to darker ones
+         * it pays by how much, to lighter ones more. So only rising colours have the least pains, and
+         * of those orders the one with the least numbers has jobs of one colour by their numbers.
          */
         private void putOn(int press, int job) {
             int[] row = rows[press];

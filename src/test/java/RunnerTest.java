@@ -184,6 +184,21 @@ public final class RunnerTest {
         Due.is("alike", x.balance(1 << 4 | 1 << 8 | 1 << 6), 0);
         for (int b = 0; b < 3; b++) Due.is("least mass", x.size(b), 4);
         leastSizesFirst();
+        leastMass(new int[] {46, 1, 4, 12}, 1 << 4 | 1 << 7 | 1 << 8, 371, 8, 4, 7, 7);
+        leastMass(new int[] {20, 45, 14, 15}, 1 << 4 | 1 << 6 | 1 << 7, 193, 6, 7, 7, 6);
+        leastMass(new int[] {30, 37, 11, 10}, 1 << 6 | 1 << 7 | 1 << 8, 69, 8, 8, 7, 7);
+    }
+
+    /** Branches 2 and 3 feed a part whose end lies between the others, whatever they are of a few sizes. */
+    private static void leastMass(int[] lengths, int set, int spread, int... sizes) {
+        HollowPress x = new HollowPress();
+        for (int p = 0; p < 3; p++) Due.part(x, p, 1, 1, 9);
+        for (int b = 0; b < 4; b++) x.branch(b == 3 ? 2 : Due.NONE, lengths[b], 1);
+        x.hang(0, 0);
+        x.hang(1, 1);
+        x.hang(3, 2);
+        Due.is("balance", x.balance(set), spread);
+        for (int b = 0; b < 4; b++) Due.is("size " + b, x.size(b), sizes[b]);
     }
 
     /** Branch 0 or 1 may be the wide one: spread and mass are alike, so 0 is the narrow one. */

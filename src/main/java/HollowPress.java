@@ -695,8 +695,8 @@ public final class HollowPress {
         }
 
         /**
-         * A way is as long backwards, so each trial also tells what the ends from every other cell
-         * are at least, and most cells need no trial of their own.
+         * A way is one backwards, too: where one cell can't reach all, none can; and since each trial
+         * also tells what the ends from every other cell are at least, most cells need none of their own.
          */
         int bestGate(Part part) {
             of = null;
@@ -710,6 +710,7 @@ public final class HollowPress {
                 startAt(c, 0);
                 flowOn();
                 int ends = endsOfTrial();
+                if (ends == NO_WAY) return NONE;
                 if (ends < bestEnds) {
                     bestEnds = ends;
                     bestCell = c;

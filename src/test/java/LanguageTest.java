@@ -11,7 +11,7 @@ import java.util.TreeSet;
 import java.util.regex.Matcher;
 import java.util.regex.Pattern;
 
-/** The face of the document, the rules of LANGUAGE.md that can be read off the class or its text, and the README. */
+/** The face of the document, and the rules of LANGUAGE.md that can be read off the class or its text. */
 public final class LanguageTest {
     private static final String FACE = """
         int sheet(int, int, int)
@@ -60,7 +60,6 @@ public final class LanguageTest {
         face();
         nestedClasses();
         text(Files.readString(Path.of("src/main/java/HollowPress.java")));
-        readme();
         System.out.println(wrong == 0 ? "the class keeps to the rules" : wrong + " rules are broken");
         if (wrong != 0) System.exit(1);
     }
@@ -124,19 +123,5 @@ public final class LanguageTest {
         }
         check(whole.chars().allMatch(ch -> ch < 128), "plain characters");
         for (String line : whole.split("\n")) check(line.length() <= 110, "short lines: " + line);
-    }
-
-    /** The example of README.md. */
-    private static void readme() {
-        HollowPress x = new HollowPress();
-        x.sheet(0, 1, 4);
-        for (int i = 0; i < 4; i++) x.set(0, i, 3);
-        check(x.part(0, 0, 0, 2, 2) == 3, "a plate");
-        x.gate(0, 0);
-        check(x.cell(0, 3, 1) == 555, "the strain of cell 3");
-        check(x.trap(0, 0) == 3, "the first trap");
-        x.branch(HollowPress.NONE, 10, 3);
-        x.hang(0, 0);
-        check(x.end(0) == 2406, "its end");
     }
 }

@@ -58,8 +58,12 @@ public final class LanguageTest {
 
     public static void main(String[] args) throws IOException {
         face();
+        faceOfDocument(Files.readString(Path.of("../shared/DOC.md")));
         nestedClasses();
-        text(Files.readString(Path.of("src/main/java/HollowPress.java")));
+        String whole = Files.readString(Path.of("src/main/java/HollowPress.java"));
+        text(whole);
+        library(withoutComments(whole));
+        methodsAreShort(whole);
         System.out.println(wrong == 0 ? "the class keeps to the rules" : wrong + " rules are broken");
         if (wrong != 0) System.exit(1);
     }
@@ -99,6 +103,16 @@ public final class LanguageTest {
         check(HollowPress.STATE == -1000002 && HollowPress.FULL == -1000003, "STATE, FULL");
     }
 
+    /** So that FACE can't drift away from the document. */
+    private static void faceOfDocument(String document) {
+        Set<String> told = new TreeSet<>();
+        Matcher call = Pattern.compile("(?m)^    public ((?:int|long) \\w+)\\((.*)\\);$").matcher(document);
+        while (call.find()) told.add(call.group(1) + "(" + call.group(2).replaceAll("\\b(int|long) \\w+", "$1") + ")");
+        check(told.equals(new TreeSet<>(Arrays.asList(FACE.strip().split("\n")))), "the face that the document tells: " + told);
+        String constants = "int NONE = -1000000, BAD = -1000001, STATE = -1000002, FULL = -1000003;";
+        check(document.contains(constants), "the constants that the document tells");
+    }
+
     private static void nestedClasses() {
         Class<?>[] inside = HollowPress.class.getDeclaredClasses();
         check(inside.length < 12, "at most some twelve classes");
@@ -116,12 +130,45 @@ public final class LanguageTest {
     }
 
     private static void text(String whole) {
-        String code = whole.replaceAll("(?s)/\\*.*?\\*/", "").replaceAll("//[^\n]*", "");
+        String code = withoutComments(whole);
         for (String word : FORBIDDEN) {
             Matcher m = Pattern.compile(word).matcher(code);
             check(!m.find(), "the code has none of " + word);
         }
         check(whole.chars().allMatch(ch -> ch < 128), "plain characters");
         for (String line : whole.split("\n")) check(line.length() <= 110, "short lines: " + line);
+    }
+
+    private static String withoutComments(String whole) {
+        return whole.replaceAll("(?s)/\\*.*?\\*/", "").replaceAll("//[^\n]*", "");
+    }
+
+    /** Every type is a number's or one of the file's own, and of the library only these functions are called. */
+    private static void library(String code) {
+        Set<String> known = new TreeSet<>(Set.of("HollowPress", "Math", "Integer", "System"));
+        Matcher own = Pattern.compile("\\bclass (\\w+)").matcher(code);
+        while (own.find()) known.add(own.group(1));
+        Matcher type = Pattern.compile("\\b[A-Z]\\w*[a-z]\\w*").matcher(code);
+        while (type.find()) check(known.contains(type.group()), "no such type: " + type.group());
+        Set<String> called = new TreeSet<>();
+        Matcher function = Pattern.compile("\\b(?:Math|Integer|System)\\.\\w+").matcher(code);
+        while (function.find()) called.add(function.group());
+        called.removeAll(Set.of("Math.max", "Math.min", "Integer.bitCount", "System.arraycopy"));
+        check(called.isEmpty(), "only what LANGUAGE.md lists: " + called);
+    }
+
+    /** A method begins at a line that ends in ") {" one or two levels in, and ends at the brace of its level. */
+    private static void methodsAreShort(String whole) {
+        String[] lines = whole.split("\n");
+        int methods = 0;
+        for (int from = 0; from < lines.length; from++) {
+            Matcher head = Pattern.compile("(    (?:    )?)\\w.*\\) \\{").matcher(lines[from]);
+            if (!head.matches() || lines[from].matches(" +(if|for|while) .*")) continue;
+            int to = from;
+            while (to < lines.length && !lines[to].equals(head.group(1) + "}")) to++;
+            methods++;
+            check(to - from <= 60, "methods stay short: " + lines[from].strip());
+        }
+        check(methods > 100, "the methods were found: " + methods);
     }
 }
